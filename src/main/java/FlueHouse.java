@@ -603,7 +603,6 @@ public final class FlueHouse {
     }
 
     private void stepToEndOf(int hour) {
-        freshen();
         // The flow keeps only its latest hour, so an earlier one is stepped to anew.
         if (flow.next > hour + 1) {
             flow.restart();
@@ -1423,7 +1422,7 @@ public final class FlueHouse {
         private final Parter parter = new Parter();
         private int supposed = NONE;
         private long supposedKnocks = 0;
-        private int supposedHoleHour = HOURS;
+        private int supposedHoleHour = 0;
         private int supposedHole = 0;
 
         void restart() {
@@ -1433,10 +1432,10 @@ public final class FlueHouse {
             Arrays.fill(leftOver, 0);
         }
 
+        /** Ash has no bearing on what goes up, so it is left behind. */
         void goOnFrom(Flow other) {
             next = other.next;
             System.arraycopy(other.layers, 0, layers, 0, layers.length);
-            System.arraycopy(other.ashes, 0, ashes, 0, ashes.length);
             System.arraycopy(other.leftOver, 0, leftOver, 0, leftOver.length);
         }
 
@@ -1450,7 +1449,6 @@ public final class FlueHouse {
         void supposeKnocks(int c, long hours) {
             supposed = c;
             supposedKnocks = hours;
-            supposedHoleHour = HOURS;
             supposedHole = 0;
         }
 
@@ -1461,7 +1459,6 @@ public final class FlueHouse {
             int hour = next;
             next++;
             Arrays.fill(comes, 0);
-            Arrays.fill(held, 0);
             Arrays.fill(flying, 0);
             Arrays.fill(ups, hour * SIZES, (hour + 1) * SIZES, 0);
             bringDust(plant, book, hour);

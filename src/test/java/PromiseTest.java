@@ -270,6 +270,9 @@ public final class PromiseTest {
         is("8 cleaners, 4 works", plantText(x, most + "join a to b share 0, c share 0, d share 0, e share 0,"
             + "f share 0, g share 0, h share 0, stack share 100;"), 8);
         is("8 ways", x.cleaner(0, 1), 8);
+        is("the first and last letters and digits", plantText(x, "cloth az holds 09,90,0,9 full 9; cloth za holds 1,1,1,1"
+            + " full 1;"), 2);
+        is("holds 90", x.cleaner(0, 3), 90);
         is("names of eight letters", plantText(x, "cloth abcdefgh holds 0,0,100,100 full 9999;"), 1);
     }
 
@@ -310,6 +313,16 @@ public final class PromiseTest {
         plantFault(b + "join c", 3, 29);
         plantFault(b + "works w at b; join w", 3, 43);
         plantFault(b + "join b to c", 3, 34);
+        plantFault(b + "join b to ;", 2, 34);
+        plantFault(b + "join b to ?", 1, 34);
+        plantFault(b + "join b to stack ;", 2, 40);
+        plantFault(b + "join b to stack share ;", 2, 46);
+        plantFault(b + "join b stack", 2, 31);
+        plantFault(b + "join b to stack share 100 stack", 2, 50);
+        plantFault(b + "works w b", 2, 32);
+        plantFault("cyclone a 1,1,1,1", 2, 10);
+        plantFault("cyclone a holds ,", 2, 16);
+        plantFault("cyclone a holds 1,1,1,1 b", 2, 24);
         plantFault(b + "join b to works", 2, 34);
         plantFault(b + "works w at stack", 2, 35);
         plantFault("cyclone a holds 101", 4, 16);
@@ -637,6 +650,9 @@ public final class PromiseTest {
         x.off(0, 2, 3, 0);
         is("off, the first hour", x.at(0, 2, 0, 1), 0);
         is("off, the last hour", x.at(0, 3, 0, 1), 0);
+        is("warm still", x.at(0, 1, 0, 1), 0);
+        x.warmth(1, 0);
+        is("cool now", x.at(0, 1, 0, 1), 10);
         promise = 19;
         x = housed("cyclone a holds 0,0,0,0; cyclone b holds 0,0,0,0; cyclone c holds 0,0,0,0; "
             + "join a to c share 33, stack share 33, b share 34; join b to c share 100; works w at a; works v at c;");
@@ -702,6 +718,9 @@ public final class PromiseTest {
         taken(x, "0", x.broken(0, 4), 0);
         taken(x, "warmth 7, hours 1 and 2: 10 is below 12", x.broken(1, 2), 0);
         taken(x, "7 and 5: 12", x.broken(1, 3), 1);
+        x.warmth(2, 6);
+        taken(x, "6 and 5: 11", x.broken(1, 3), 0);
+        x.warmth(2, 7);
         taken(x, "hour 0 has fewer ahead", x.broken(1, 0), 0);
         taken(x, "left to right: 0", x.broken(2, 2), 1);
         taken(x, "below 0", x.broken(2, 3), 0);
@@ -716,6 +735,13 @@ public final class PromiseTest {
         is("round on", x.broken(0, 0), 9999L * 9999 * 9999 * 9999 * 9999 >= 0 ? 1 : 0);
         is("not yet round", x.broken(1, 0), 1);
         is("round once", x.broken(2, 0), 9999L * 9999 * 9999 * 9999 * 923 >= 0 ? 1 : 0);
+        String much = "l:" + "hour+".repeat(80) + "1 over 1 below 81;";
+        for (int i = 0; i < 4; i++) {
+            is("a long law, time and again", lawsText(x, much), 1);
+            is("hour 0: 1", x.broken(0, 0), 0);
+            is("hour 1: 81", x.broken(0, 1), 1);
+        }
+        lawsText(x, "a:1 over 1 below 1;b:0 over 1 below 1;c:0 over 1 below 1;d:1 over 24 below 1;");
         is("22 ahead", x.broken(3, 22), 0);
         is("23 ahead", x.broken(3, 23), 1);
     }
@@ -829,13 +855,16 @@ public final class PromiseTest {
         refused(x, "too few ahead of 7", x.knocks(1, 1, 3, 1, 5), 3);
         refused(x, "two alike ahead of 7", x.knocks(1, 1, 2, 1, 5), 1);
         refused(x, "two alike", x.knocks(0, 0, 4, 1, 5), 1);
-        refused(x, "hour 48", x.knocks(0, 0, 5, 1, 5), 1);
-        fill(x, 1, 0, -1);
-        refused(x, "hour -1", x.knocks(0, 1, 1, 1, 5), 1);
-        refused(x, "another sort", x.knocks(1, 0, 3, 1, 5), 7);
         promise = 27;
         refused(x, "knockSet() ahead of any", x.knockSet(), 6);
         promise = 26;
+        fill(x, 1, 0, 48);
+        refused(x, "hour 48", x.knocks(0, 1, 1, 1, 5), 1);
+        fill(x, 1, 0, 47);
+        taken(x, "hour 47", x.knocks(0, 1, 1, 1, 5), 25);
+        fill(x, 1, 0, -1);
+        refused(x, "hour -1", x.knocks(0, 1, 1, 1, 5), 1);
+        refused(x, "another sort", x.knocks(1, 0, 3, 1, 5), 7);
         taken(x, "none: 5 times 5", x.knocks(0, 0, 3, 0, 5), 25);
         promise = 27;
         taken(x, "the empty set", x.knockSet(), 0);
@@ -870,6 +899,21 @@ public final class PromiseTest {
         taken(x, "a cloth that is full", x.knocks(2, 3, 2, 0, 47), 20);
         taken(x, "a cloth that is knocked", x.knocks(2, 3, 2, 1, 47), 10);
         is("its set", x.knockSet(), 2);
+        x = housed("cloth c holds 100,0,0,0 full 10; works w at c;");
+        int[] dust = {4, 4, 4, 6, 6};
+        for (int hour = 0; hour < 5; hour++) {
+            x.row(0, hour, 0, dust[hour], 0);
+        }
+        fill(x, 0, 0, 2, 4, 3);
+        taken(x, "2 and 4 together, or 3 alone", x.knocks(0, 0, 3, 3, 4), 0);
+        is("the fewest", x.knockSet(), 4);
+        fill(x, 1, 2, 0, 0, 0, 6, 6);
+        promise = 24;
+        taken(x, "torn() knows nothing of them: full in 3 and 4 with holes from 3 or 4 on", x.torn(1, 0, 5, 0), 20);
+        fill(x, 1, 2, 2, 2, 2, 3, 3);
+        taken(x, "a hole of 50 from 0 on", x.torn(1, 0, 5, 0), 1);
+        promise = 26;
+        taken(x, "knocks() knows nothing of it", x.knocks(0, 0, 3, 0, 4), 12);
     }
 
     private static void rowOf() {
