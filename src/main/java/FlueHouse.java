@@ -959,7 +959,14 @@ public final class FlueHouse {
                 return false;
             }
             limits[c] = tape.taken;
-            return sort != PLATES || readFlies(tape, c);
+            if (sort != PLATES) {
+                return true;
+            }
+            if (!tape.takeKey(WORD_FLIES) || !tape.takeNumber(0, WHOLE, PLANT_FAULT_NUMBER)) {
+                return false;
+            }
+            flies[c] = tape.taken;
+            return true;
         }
 
         private static int limitWord(int sort) {
@@ -967,14 +974,6 @@ public final class FlueHouse {
                 return WORD_LAYER;
             }
             return sort == CLOTH ? WORD_FULL : WORD_WARM;
-        }
-
-        private boolean readFlies(Tape tape, int c) {
-            if (!tape.takeKey(WORD_FLIES) || !tape.takeNumber(0, WHOLE, PLANT_FAULT_NUMBER)) {
-                return false;
-            }
-            flies[c] = tape.taken;
-            return true;
         }
 
         private boolean readJoin(Tape tape) {
@@ -1422,7 +1421,6 @@ public final class FlueHouse {
         private final Parter parter = new Parter();
         private int supposed = NONE;
         private long supposedKnocks = 0;
-        private int supposedHoleHour = 0;
         private int supposedHole = 0;
 
         void restart() {
@@ -1439,10 +1437,10 @@ public final class FlueHouse {
             System.arraycopy(other.leftOver, 0, leftOver, 0, leftOver.length);
         }
 
-        void supposeHole(int c, int hour, int much) {
+        /** A hole from the next hour on. */
+        void supposeHole(int c, int much) {
             supposed = c;
             supposedKnocks = 0;
-            supposedHoleHour = hour;
             supposedHole = much;
         }
 
@@ -1511,7 +1509,7 @@ public final class FlueHouse {
 
         private int lessBy(Book book, int c, int hour) {
             int less = book.holesBy(c, hour);
-            return c == supposed && hour >= supposedHoleHour ? less + supposedHole : less;
+            return c == supposed ? less + supposedHole : less;
         }
 
         private void hold(int i, int hundredths, boolean keeps) {
@@ -1625,7 +1623,7 @@ public final class FlueHouse {
         private void tryHoles(Flow base, Plant plant, Book book, int c, int hour) {
             for (int much = HOLE_STEP; much <= WHOLE; much += HOLE_STEP) {
                 trial.goOnFrom(base);
-                trial.supposeHole(c, hour, much);
+                trial.supposeHole(c, much);
                 if (explains(plant, book, hour)) {
                     fits++;
                     // Hours go up, so of one cloth the hole found first is its first.

@@ -322,6 +322,10 @@ public final class PromiseTest {
         plantFault(b + "works w b", 2, 32);
         plantFault("cyclone a 1,1,1,1", 2, 10);
         plantFault("cyclone a holds ,", 2, 16);
+        plantFault("cyclone a;", 2, 9);
+        plantFault("cyclone a holds 1;", 2, 17);
+        plantFault("cyclone a holds 1,1,1,1 works", 2, 24);
+        plantFault(b + "join b to stack share 100 works w at b;", 2, 50);
         plantFault("cyclone a holds 1,1,1,1 b", 2, 24);
         plantFault(b + "join b to works", 2, 34);
         plantFault(b + "works w at stack", 2, 35);
@@ -661,6 +665,19 @@ public final class PromiseTest {
         is("rests 65, 65, 70: one to b, one to c", x.at(1, 0, 0, 0), 2);
         is("2, and 2 from b, and 2 of its own works", x.at(2, 0, 0, 0), 6);
         is("up: 1 at once, and 6", x.up(0, 0), 7);
+        StringBuilder most = new StringBuilder();
+        for (char c = 'a'; c <= 'h'; c++) {
+            most.append("cloth ").append(c).append(" holds 10,0,0,0 full 9999;");
+        }
+        x = housed(most + "join a to stack share 30,h share 10,g share 10,f share 10,e share 10,d share 10,c share 10,"
+            + "b share 10;works w at a;works v at h;works u at h;works t at h;");
+        x.row(0, 47, 0, 1000, 0);
+        x.row(3, 47, 0, 10, 0);
+        is("270 by the first way", x.up(47, 0), 270 + 6 * 81 + 90);
+        is("the eighth cleaner: 90 and 10", x.at(7, 47, 0, 0), 100);
+        is("the eighth way: 90", x.at(1, 47, 0, 3), 9);
+        taken(x, "knock of the eighth", x.knock(7, 47, 0));
+        is("no layer yet", x.at(7, 47, 0, 4), 0);
         promise = 20;
         x = housed("plates p holds 51,51,51,51 layer 10 flies 100; works w at p;");
         x.row(0, 0, 0, 20, 0);
@@ -736,7 +753,8 @@ public final class PromiseTest {
         is("not yet round", x.broken(1, 0), 1);
         is("round once", x.broken(2, 0), 9999L * 9999 * 9999 * 9999 * 923 >= 0 ? 1 : 0);
         String much = "l:" + "hour+".repeat(80) + "1 over 1 below 81;";
-        for (int i = 0; i < 4; i++) {
+        x = new FlueHouse();
+        for (int i = 0; i < 12; i++) {
             is("a long law, time and again", lawsText(x, much), 1);
             is("hour 0: 1", x.broken(0, 0), 0);
             is("hour 1: 81", x.broken(0, 1), 1);
