@@ -70,6 +70,18 @@ public final class FlowBoundsTest {
         Due.fine(x, "nothing in the hour behind", x.at(2, 6, 0, COMES), 0);
         Due.fine(x, "nothing in the hour ahead", x.at(2, 4, 0, COMES), 0);
         Due.fine(x, "up", x.up(5, 0), 62);
+        x = Due.rightPlant(3, "cyclone a holds 0,0,0,0;cyclone b holds 0,0,0,0;cyclone c holds 0,0,0,0;"
+            + "join a to b share 50,c share 50;join b to c share 50,stack share 50;works w at a;works v at b;");
+        for (int size = 0; size < 4; size++) {
+            x.row(0, 47, size, 40 + 4 * size, 0);
+            x.row(1, 47, size, 100, 0);
+        }
+        for (int size = 0; size < 4; size++) {
+            int half = 20 + 2 * size;
+            Due.fine(x, "to a of size " + size, x.at(0, 47, size, COMES), 2 * half);
+            Due.fine(x, "to b of size " + size, x.at(1, 47, size, COMES), half + 100);
+            Due.fine(x, "to c of size " + size, x.at(2, 47, size, COMES), half + (half + 100) / 2);
+        }
     }
 
     private static void knockedOnce() {
@@ -225,8 +237,31 @@ public final class FlowBoundsTest {
         for (int hour = 0; hour < 5; hour++) {
             Due.fine(x, "all holes by hour " + hour, x.at(0, hour, 0, HELD), all[hour]);
         }
+        x.hole(0, 4, 100, 0);
+        Due.fine(x, "more than all", x.at(0, 4, 0, HELD), 0);
+        FlueHouse y = Due.rightPlant(8, cloths("abcdefgh") + "works w at a;works v at b;works u at h;");
+        for (int hour = 0; hour < 48; hour += 47) {
+            for (int w = 0; w < 3; w++) {
+                y.row(w, hour, 0, 100, 0);
+            }
+        }
+        y.hole(0, 0, 10, 0);
+        y.hole(7, 47, 20, 0);
+        int[] own = {90, 100, 100, 90, 100, 80};
+        for (int i = 0; i < 6; i++) {
+            int c = i % 3 == 2 ? 7 : i % 3;
+            Due.fine(y, "its own holes alone, in hour " + i / 3 * 47, y.at(c, i / 3 * 47, 0, HELD), own[i]);
+        }
         Due.fine(x, "a knock mends no hole", x.knock(0, 2, 0));
         Due.fine(x, "all holes by hour 2 still", x.at(0, 2, 0, HELD), 1);
+    }
+
+    private static String cloths(String letters) {
+        StringBuilder s = new StringBuilder();
+        for (char c : letters.toCharArray()) {
+            s.append("cloth ").append(c).append(" holds 100,0,0,0 full 9999;");
+        }
+        return s.toString();
     }
 
     private static void warmSpray() {
@@ -361,6 +396,34 @@ public final class FlowBoundsTest {
         waysGet("b share 1,stack share 99", 51, 1, 0, 50);
         waysGet("b share 25,c share 25,stack share 50", 2, 1, 0, 1);
         waysGet("b share 25,c share 25,stack share 50", 3, 1, 1, 1);
+        eightWays();
+        fewerWaysBehindMore();
+    }
+
+    private static void eightWays() {
+        FlueHouse x = Due.rightPlant(8, cloths("abcdefgh").replace("holds 100", "holds 0")
+            + "join a to h share 13,g share 13,f share 13,e share 13,d share 12,c share 12,b share 12,stack share 12;"
+            + "works w at a;");
+        // 13 by 100 and 12 by 100 of each: what is left goes by the first ways first.
+        int[] order = {7, 6, 5, 4, 3, 2, 1};
+        for (int many = 1; many <= 8; many++) {
+            x.row(0, many, 0, many, 0);
+            for (int way = 0; way < 7; way++) {
+                Due.fine(x, many + " by eight ways, way " + way, x.at(order[way], many, 0, COMES), way < many ? 1 : 0);
+            }
+        }
+        Due.fine(x, "the eighth goes by the last way", x.up(8, 0), 8);
+    }
+
+    /** What was left in the ways of one cleaner has no part in those of the next. */
+    private static void fewerWaysBehindMore() {
+        FlueHouse x = Due.rightPlant(4, cloths("abcd").replace("holds 100", "holds 0")
+            + "join a to stack share 34,c share 33,d share 33;join b to c share 50,d share 50;works w at a;works v at b;");
+        x.row(0, 0, 0, 2, 0);
+        x.row(1, 0, 0, 1, 0);
+        Due.fine(x, "to c: one of a, and the one of b", x.at(2, 0, 0, COMES), 2);
+        Due.fine(x, "to d: none", x.at(3, 0, 0, COMES), 0);
+        Due.fine(x, "up: all three", x.up(0, 0), 3);
     }
 
     private static void waysGet(String ways, int many, int b, int c, int stack) {

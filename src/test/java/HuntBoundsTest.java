@@ -17,6 +17,9 @@ public final class HuntBoundsTest {
         tensOfHundredths();
         spans();
         fitsAndFirst();
+        leftOverAhead();
+        eightCloths();
+        oneSearchBehindAnother();
         statusesOfTorn();
         tornToldAsked();
         hoursToKnock();
@@ -179,6 +182,81 @@ public final class HuntBoundsTest {
         told(x, 1, 0, 30);
         Due.fill(x, 0, 1, 500);
         Due.fine(x, "none fits", x.torn(0, 3, 1, 5), 0);
+        FlueHouse y = dusty(TWO_CLOTHS, 2, 0);
+        y.row(1, 3, 0, 0, 0);
+        Due.fill(y, 0, 1, 0, 40);
+        Due.fine(y, "b from 4 on, d from 0 to 4 on", y.torn(0, 3, 2, 0), 6);
+        told(y, 1, 4, 40);
+    }
+
+    private static void leftOverAhead() {
+        Due.says(TERMS, "from what would be UP with it.");
+        FlueHouse x = Due.rightPlant(1, "cloth c holds 50,0,0,0 full 9999;works w at c;");
+        for (int hour = 0; hour < 3; hour++) {
+            x.row(0, hour, 0, 1, 0);
+        }
+        Due.fill(x, 0, 1, 1, 1, 0);
+        // From 0 on with 10: 40, 80, 120. From 1 on, with 50 left over of hour 0, with 10: 90, 130, with 20: 80, 110.
+        Due.fine(x, "what is left over of the hours ahead counts", x.torn(0, 0, 3, 0), 3);
+        told(x, 0, 0, 10);
+        Due.fill(x, 0, 1, 1, 0);
+        Due.fine(x, "hours 1 and 2 alone", x.torn(0, 1, 2, 0), 3);
+        told(x, 0, 0, 10);
+        FlueHouse y = Due.rightPlant(1, "cloth c holds 100,0,0,0 full 10;works w at c;");
+        for (int hour = 0; hour < 3; hour++) {
+            y.row(0, hour, 0, 10, 0);
+        }
+        Due.fill(y, 0, 1, 0, 10, 10);
+        // From hour 1 on the cloth is full: any hole. From 0 on it lets pass of hour 0, too.
+        Due.fine(y, "a cloth that was full ahead of the hole", y.torn(0, 0, 3, 0), 20);
+        told(y, 0, 1, 10);
+        Due.fill(y, 0, 1, 1, 1, 10);
+        // 9 in hour 0, so not full: 9 in hour 1; then it is full.
+        Due.fine(y, "a cloth that is full later with the hole", y.torn(0, 0, 3, 0), 1);
+        told(y, 0, 0, 10);
+    }
+
+    private static void eightCloths() {
+        Due.says(TERMS, "FITS: how many such HOLES");
+        StringBuilder text = new StringBuilder();
+        for (char c = 'a'; c <= 'h'; c++) {
+            text.append("cloth ").append(c).append(" holds 100,0,0,0 full 9999;");
+        }
+        FlueHouse x = Due.rightPlant(8, text + "works w at h;");
+        x.row(0, 0, 0, 100, 0);
+        Due.fill(x, 0, 1, 30);
+        Due.fine(x, "in the eighth alone", x.torn(0, 0, 1, 0), 1);
+        told(x, 7, 0, 30);
+        Due.fill(x, 0, 1, 0);
+        Due.fine(x, "in the other seven by any", x.torn(0, 0, 1, 0), 70);
+        told(x, 0, 0, 10);
+        for (int i = 0; i < 2; i++) {
+            Due.plant(x, "cloth a holds 100,0,0,0 full 9999;");
+            Due.fine(x, "in one, when there is but one", x.torn(0, 0, 1, 0), 10);
+        }
+    }
+
+    private static void oneSearchBehindAnother() {
+        Due.says("Promise 24", "FITS of TORN");
+        FlueHouse x = Due.rightPlant(1, "cloth c holds 100,0,0,0 full 10;works w at c;");
+        int[] dust = {4, 4, 4, 6, 6};
+        for (int hour = 0; hour < 5; hour++) {
+            x.row(0, hour, 0, dust[hour], 0);
+        }
+        Due.fill(x, 0, 0, 2, 4, 3);
+        Due.fill(x, 1, 2, 0, 0, 0, 6, 6);
+        Due.fill(x, 2, 2, 2, 2, 2, 3, 3);
+        Due.fine(x, "knocks()", x.knocks(0, 0, 3, 3, 4), 0);
+        Due.fine(x, "torn() knows nothing of them: full in 3 and 4, any hole then", x.torn(1, 0, 5, 0), 20);
+        Due.fine(x, "a hole of 50 from 0 on", x.torn(2, 0, 5, 0), 1);
+        Due.says("Promise 26", "the least that is UP");
+        Due.fine(x, "knocks() knows nothing of it", x.knocks(0, 0, 3, 0, 4), 12);
+        Due.fine(x, "nor of the set ahead", x.knockSet(), 0);
+        Due.fine(x, "nor does up()", x.up(4, 0), 6);
+        Due.fine(x, "nor does at()", x.at(0, 2, 0, 3), 12);
+        x.torn(2, 0, 1, 0);
+        Due.fine(x, "at() of an hour behind those that torn() went through", x.at(0, 4, 0, 3), 12);
+        Due.fine(x, "at() of one ahead", x.at(0, 0, 0, 3), 4);
     }
 
     private static void statusesOfTorn() {

@@ -117,6 +117,12 @@ public final class LawBoundsTest {
             Due.wrongLaws(2, opens ? start + " ( ( " + rest.replace("over", "^over")
                 : start + " " + token + " ^" + token + " " + rest);
         }
+        Due.wrongLaws(2, "l: ^over 1 below 1;");
+        Due.wrongLaws(2, "l ^over 1 below 1;");
+        Due.wrongLaws(2, "l:1 ^below 1;");
+        Due.wrongLaws(2, "l:1 over 1^;");
+        Due.wrongLaws(2, "l:1^;");
+        Due.wrongLaws(2, "l^;");
         Due.wrongLaws(2, "l:1 ^below 1 over 1;");
         Due.wrongLaws(2, "l:1 over ^hour below 1;");
         Due.wrongLaws(2, "l:1 over 1 below ^fine;");
@@ -297,6 +303,12 @@ public final class LawBoundsTest {
         Due.fine(x, "a plant leaves the laws", Due.laws(x, EIGHT), 8);
         Due.plant(x, CYCLONE);
         Due.fine(x, "the eighth law", x.broken(7, 0), 1);
+        String longest = "l:" + "hour+".repeat(112) + "1 over 1 below 113;";
+        for (int i = 0; i < 6; i++) {
+            Due.fine(x, "a long law, time and again", Due.laws(x, longest), 1);
+            Due.fine(x, "in hour 0 it is 1", x.broken(0, 0), 0);
+            Due.fine(x, "in hour 1 it is 113", x.broken(0, 1), 1);
+        }
     }
 
     private static void roundOn() {
@@ -382,6 +394,10 @@ public final class LawBoundsTest {
         Due.fine(x, "4 is below 5", x.breach(0), 47);
         x.row(0, 46, 0, 5, 0);
         Due.fine(x, "a later law in an earlier hour", x.breach(0), 46);
+        FlueHouse last = Due.rightPlant(1, CYCLONE);
+        Due.laws(last, "a:fine over 1 below 5;");
+        last.row(0, 47, 0, 5, 0);
+        Due.fine(last, "what is up in the last hour", last.breach(0), 47);
         Due.says(TERMS, "of one HOUR the first LAW.");
         Due.fine(x, "b ahead of c", x.breach(1), 1);
         x.row(0, 47, 0, 5, 0);

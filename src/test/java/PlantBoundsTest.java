@@ -207,6 +207,10 @@ public final class PlantBoundsTest {
         form(2, AB, "join a to b share 40 , stack share 60 ;");
         Due.says(TERMS, "or works NAME at NAME ;");
         form(2, AB, "works w at b ;");
+        Due.wrongPlant(2, "cyclone c^;");
+        Due.wrongPlant(2, "plates c ^layer 5 flies 6;");
+        Due.wrongPlant(2, "cloth c ^full 5;");
+        Due.wrongPlant(2, "spray c ^warm 5;");
         Due.wrongPlant(2, "cyclone c holds 1,2,3,4 ^layer 5;");
         Due.wrongPlant(2, "cyclone c holds 1,2,3,4 ^full 5;");
         Due.wrongPlant(2, "plates c holds 1,2,3,4 ^full 5 flies 6;");
@@ -231,6 +235,11 @@ public final class PlantBoundsTest {
             }
             Due.wrongPlant(2, start + " ^" + rest);
             Due.wrongPlant(2, start + " " + token + " ^" + token + " " + rest);
+            for (int k = i + 2; k < tokens.size(); k++) {
+                FlueHouse x = new FlueHouse();
+                String text = start + " " + String.join(" ", tokens.subList(k, tokens.size()));
+                Due.refused(x, "plant() of " + text, Due.plant(x, text), 9);
+            }
         }
     }
 
@@ -405,7 +414,20 @@ public final class PlantBoundsTest {
         Due.refused(x, "plant(23): the text ends ahead of the ;", x.plant(23), 9);
         Due.is("fault(0)", x.fault(0), 2);
         Due.is("fault(1)", x.fault(1), 23);
+        cutAt(AB + "cyclone cde", 57, 57);
+        cutAt(A + "join a to stack share 100;", 27, 24);
+        cutAt("cyclone a holds 10000", 17, 17);
+        cutAt("cyclone a holds 1,1,1,100000", 25, 25);
         Due.wrongPlant(2, "cyclone a holds 1,1,1,1 ^cyclone");
+    }
+
+    /** What is on the tape behind the text has no part in it, though a token goes on there. */
+    private static void cutAt(String tape, int n, int place) {
+        FlueHouse x = new FlueHouse();
+        Due.feed(x, tape);
+        Due.refused(x, "plant(" + n + ") of " + tape, x.plant(n), 9);
+        Due.is("fault(0)", x.fault(0), 2);
+        Due.is("fault(1)", x.fault(1), place);
     }
 
     private static void faultThreeThere() {
@@ -544,8 +566,22 @@ public final class PlantBoundsTest {
         Due.refused(x, "no works", x.works(0), 1);
         Due.fine(x, "an empty plant", x.plant(0), 0);
         Due.refused(x, "no cleaner", x.cleaner(0, 0), 1);
+        Due.refused(x, "no works", x.works(0), 1);
         Due.fine(x, "the names are free again", Due.plant(x, AB + "works w at a;"), 2);
         Due.fine(x, "a is not joined", x.cleaner(0, 1), 1);
+        String full = cyclones("abcdefgh") + "works p at a;works q at b;works r at c;works s at d;join a to h share 100;";
+        for (int i = 0; i < 4; i++) {
+            Due.fine(x, "as much as there can be, time and again", Due.plant(x, full), 8);
+            Due.refused(x, "with a fault between", Due.plant(x, full + "join a"), 9);
+        }
+        x = Due.rightPlant(1, "plates p holds 100,0,0,0 layer 1 flies 100;works w at p;");
+        for (int i = 0; i < 3; i++) {
+            Due.plant(x, "cloth c holds 100,0,0,0 full 50;works w at c;");
+            x.row(0, 0, 0, 10, 0);
+            x.knock(0, 1, 0);
+            Due.fine(x, "plates were there, now a cloth is: nothing flies", x.at(0, 1, 0, 2), 0);
+            Due.fine(x, "all is ash", x.at(0, 1, 0, 4), 10);
+        }
     }
 
     private static void rowsAndEventsGone() {
