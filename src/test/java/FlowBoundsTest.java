@@ -13,11 +13,13 @@ public final class FlowBoundsTest {
 
     public static void main(String[] args) {
         hourByHour();
+        cleanerByCleaner();
         comes();
         knockedOnce();
         knockedFirst();
         flies();
         restIsAsh();
+        itsHundredths();
         halfOfPlates();
         layerOfPlates();
         fullCloth();
@@ -55,6 +57,62 @@ public final class FlowBoundsTest {
         x.knock(0, 0, 0);
         Due.fine(x, "in hour 0 there is no layer yet", x.at(0, 0, 0, ASH), 0);
         Due.fine(x, "nothing was knocked off", x.at(0, 47, 0, LAYER), 9);
+    }
+
+    private static void cleanerByCleaner() {
+        Due.says(TERMS, "in each CLEANER by CLEANER: of each SIZE");
+        FlueHouse x = Due.rightPlant(3, "plates a holds 100,0,0,0 layer 9999 flies 100;works w at a;"
+            + "plates b holds 100,0,0,0 layer 9999 flies 100;plates c holds 100,0,0,0 layer 9999 flies 100;"
+            + "join b to c share 100;join a to b share 100;");
+        x.row(0, 0, 0, 10, 0);
+        for (int c = 2; c >= 0; c--) {
+            x.knock(c, 1, 0);
+            x.knock(c, 2, 0);
+        }
+        // What flies off one comes to the next in the same hour, behind that one's own knock.
+        int[][] layers = {{10, 0, 0}, {0, 10, 0}, {0, 0, 10}, {0, 0, 10}};
+        int[][] flying = {{0, 0, 0}, {10, 0, 0}, {0, 10, 0}, {0, 0, 0}};
+        for (int hour = 0; hour < 4; hour++) {
+            for (int c = 0; c < 3; c++) {
+                Due.fine(x, "the layer of " + c + " in hour " + hour, x.at(c, hour, 0, LAYER), layers[hour][c]);
+                Due.fine(x, "what flies off " + c + " in hour " + hour, x.at(c, hour, 0, FLIES), flying[hour][c]);
+            }
+            Due.fine(x, "up in hour " + hour, x.up(hour, ALL), 0);
+        }
+        eightInOneHour();
+        sizesApart();
+    }
+
+    private static void eightInOneHour() {
+        StringBuilder text = new StringBuilder();
+        for (char c = 'a'; c <= 'h'; c++) {
+            text.append("cyclone ").append(c).append(" holds 50,0,0,0;");
+        }
+        for (char c = 'g'; c >= 'a'; c--) {
+            text.append("join ").append(c).append(" to ").append((char) (c + 1)).append(" share 100;");
+        }
+        FlueHouse x = Due.rightPlant(8, text + "works w at a;");
+        x.row(0, 47, 0, 256, 0);
+        for (int c = 0; c < 8; c++) {
+            Due.fine(x, "comes to " + c, x.at(c, 47, 0, COMES), 256 >> c);
+            Due.fine(x, "held by " + c, x.at(c, 47, 0, HELD), 128 >> c);
+        }
+        Due.fine(x, "up", x.up(47, 0), 1);
+    }
+
+    private static void sizesApart() {
+        FlueHouse x = Due.rightPlant(2, "cyclone a holds 50,0,100,25;cyclone b holds 100,0,0,50;join a to b share 100;"
+            + "works w at a;");
+        for (int size = 0; size < 4; size++) {
+            x.row(0, 0, size, 40, 0);
+        }
+        int[] comes = {20, 40, 0, 30};
+        int[] held = {20, 0, 0, 15};
+        for (int size = 0; size < 4; size++) {
+            Due.fine(x, "comes to b of size " + size, x.at(1, 0, size, COMES), comes[size]);
+            Due.fine(x, "held by b of size " + size, x.at(1, 0, size, HELD), held[size]);
+            Due.fine(x, "up of size " + size, x.up(0, size), comes[size] - held[size]);
+        }
     }
 
     private static void comes() {
@@ -153,6 +211,25 @@ public final class FlowBoundsTest {
         x.knock(0, 3, 0);
         Due.fine(x, "a knock without a layer", x.at(0, 3, ALL, ASH), 69);
         Due.fine(x, "nothing flies", x.at(0, 3, ALL, FLIES), 0);
+    }
+
+    private static void itsHundredths() {
+        Due.says(TERMS, "It HOLDS of each SIZE its hundredths");
+        FlueHouse x = Due.rightPlant(4, "cyclone a holds 0,1,99,100;plates b holds 100,0,1,99 layer 9999 flies 0;"
+            + "cloth c holds 99,100,0,1 full 9999;spray d holds 1,99,100,0 warm 1;"
+            + "works p at a;works q at b;works r at c;works s at d;");
+        int[][] hundredths = {{0, 1, 99, 100}, {100, 0, 1, 99}, {99, 100, 0, 1}, {1, 99, 100, 0}};
+        for (int c = 0; c < 4; c++) {
+            for (int size = 0; size < 4; size++) {
+                x.row(c, 0, size, 100, 0);
+                x.row(c, 1, size, 300, 0);
+                Due.fine(x, "of 100", x.at(c, 0, size, HELD), hundredths[c][size]);
+                Due.fine(x, "of 300", x.at(c, 1, size, HELD), 3 * hundredths[c][size]);
+            }
+        }
+        for (int size = 0; size < 4; size++) {
+            Due.fine(x, "what none of them holds is up", x.up(0, size), 200);
+        }
     }
 
     private static void halfOfPlates() {

@@ -7,16 +7,16 @@ import java.util.regex.Matcher;
 import java.util.regex.Pattern;
 
 /**
- * That the sentences which the tests of bounds are about stand in the document, word for word, and that no number of
- * the document and no word of a bound stands outside of them: so each of its edges has a test that names it.
+ * That the sentences which the tests are about stand in the document, word for word, and that no word and no number of
+ * its terms and promises stands outside of them: so each of its sentences has a test that names it.
  */
 public final class SentencesTest {
     private static final Path DOCUMENT = Path.of("../shared/DOC.md");
     private static final Path TESTS = Path.of("src/test/java");
     private static final Pattern SAYS = Pattern.compile("Due\\.says\\((TERMS|\"[^\"]*\"), (\"[^\"]*\")\\)");
-    private static final Pattern EDGES = Pattern.compile("[0-9][0-9,]*|at most|at least|or more|no more|rounded down|"
-        + "MISSING|latest|the first|the lesser|the least|the most|empty|gone|stays?\\b|none|never|nobody|ahead of any|"
-        + "round on|however often|both in it|beyond|already|not below|as long as|fewest|shortest|below 0");
+    private static final Pattern WORD = Pattern.compile("[A-Za-z0-9]+");
+    /** A promise begins with its call, which FaceTest holds against the class. */
+    private static final Pattern NO_SENTENCE = Pattern.compile("```(text)?|^\\s*`[^`]*`:");
     private static int wrong = 0;
 
     private SentencesTest() {
@@ -34,7 +34,7 @@ public final class SentencesTest {
         Map<String, String> whole = new HashMap<>();
         left.forEach((name, text) -> whole.put(name, text.toString()));
         int quotes = 0;
-        try (DirectoryStream<Path> tests = Files.newDirectoryStream(TESTS, "*BoundsTest.java")) {
+        try (DirectoryStream<Path> tests = Files.newDirectoryStream(TESTS, "*Test.java")) {
             for (Path test : tests) {
                 String source = Files.readString(test).replaceAll("\"\\s*\\+\\s*\"", "");
                 Matcher says = SAYS.matcher(source);
@@ -77,8 +77,14 @@ public final class SentencesTest {
         int at = text.indexOf(words);
         must(at >= 0, section + " does not say: " + words);
         must(at < 0 || text.indexOf(words, at + 1) < 0, section + " says more than once: " + words);
-        for (int i = at; at >= 0 && i < at + words.length(); i++) {
-            left.get(section).setCharAt(i, '#');
+        if (at >= 0) {
+            blot(left.get(section), at, at + words.length());
+        }
+    }
+
+    private static void blot(StringBuilder text, int from, int to) {
+        for (int i = from; i < to; i++) {
+            text.setCharAt(i, '#');
         }
     }
 
@@ -87,10 +93,14 @@ public final class SentencesTest {
         if (!section.equals("Terms") && !section.startsWith("Promise ")) {
             return;
         }
-        Matcher edge = EDGES.matcher(text);
-        while (edge.find()) {
-            int from = Math.max(0, edge.start() - 40);
-            int to = Math.min(text.length(), edge.end() + 40);
+        Matcher none = NO_SENTENCE.matcher(text);
+        while (none.find()) {
+            blot(text, none.start(), none.end());
+        }
+        Matcher word = WORD.matcher(text);
+        while (word.find()) {
+            int from = Math.max(0, word.start() - 40);
+            int to = Math.min(text.length(), word.end() + 40);
             must(false, "no test names this of " + section + ": .." + text.substring(from, to) + "..");
         }
     }

@@ -15,6 +15,7 @@ public final class TrayBoundsTest {
         cutToSort();
         places();
         statusesOfWrite();
+        numberInAPlace();
         statusesOfRead();
         noneAndMinusOne();
         pourEdges();
@@ -198,6 +199,20 @@ public final class TrayBoundsTest {
         }
         for (int place = 0; place < 5; place++) {
             Due.fine(x, "a refused write() changes nothing", x.read(1, place), 0);
+        }
+    }
+
+    private static void numberInAPlace() {
+        Due.says("Promise 5", "The number in a place of a TRAY");
+        FlueHouse x = new FlueHouse();
+        for (int tray = 0; tray < 4; tray++) {
+            Due.fill(x, tray, tray, 10 * tray + 1, 10 * tray + 2, 10 * tray + 3);
+        }
+        for (int tray = 3; tray >= 0; tray--) {
+            for (int place = 2; place >= 0; place--) {
+                Due.fine(x, "read(" + tray + ", " + place + ")", x.read(tray, place), 10 * tray + 1 + place);
+                Due.fine(x, "read() leaves it there", x.read(tray, place), 10 * tray + 1 + place);
+            }
         }
     }
 
