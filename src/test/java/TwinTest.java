@@ -9,7 +9,7 @@ import java.util.function.ToLongFunction;
  * third only those that were taken and that tell something. None of the three may be told from the others.
  */
 public final class TwinTest {
-    private static final int RUNS = 1000;
+    private static final int RUNS = 500;
     private static final int ROWS = 25;
     /** With the status of each, and the texts, these stay below the 512 calls of an object. */
     private static final int CALLS = 90;
